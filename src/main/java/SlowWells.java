@@ -277,7 +277,20 @@ public final class SlowWells {
         if (now.waste == null) {
             return STATE;
         }
-        return what == 0 ? fittest(start, its) : edge(start, its);
+        int most = -1, fewest = 0, edge = 0;
+        for (int beasts = 1; beasts <= MOST_BEASTS; beasts++) {
+            trialCaravan.become(beasts, start, its);
+            trialWells.become(now.wells);
+            send(now.waste, trialWells, trialCaravan);
+            if (trip.over == NOT && edge == 0) {
+                edge = beasts;
+            }
+            if (trip.over != NOT && worthOf(beasts) > most) {
+                most = worthOf(beasts);
+                fewest = beasts;
+            }
+        }
+        return what == 0 ? fewest : edge;
     }
 
     public int several(int caravan) {
@@ -303,15 +316,18 @@ public final class SlowWells {
         if (now.waste == null) {
             return STATE;
         }
-        if (what >= 2 && what <= 5) {
-            findOrder();
-            return what == 5 ? group.mostWorth : group.placeAt(what - 2, now.severals);
+        if (what < 2 || what > 5) {
+            sendSeveral(0);
+            return group.tell(what);
         }
-        sendSeveral(0);
-        if (what == 0) {
-            return group.worth;
+        group.forgetOrder();
+        for (int order = 0; order * MOST_SEVERAL < ORDERS.length; order++) {
+            if (isOrderOf(order, now.severals)) {
+                sendSeveral(order);
+                group.compare(order);
+            }
         }
-        return what == 1 ? group.latest : group.overAt(what - 10);
+        return what == 5 ? group.mostWorth : group.placeAt(what - 2, now.severals);
     }
 
     public long likely(int caravan, int part) {
@@ -558,38 +574,11 @@ public final class SlowWells {
         if (one.rule.kind == TOLD) {
             stands = one.rule.row;
         } else if (one.rule.kind == BEST) {
-            planner.plan(waste, wells, one);
+            planner.earliest(waste, wells, one);
+            planner.plan();
             stands = planner.row;
         }
         trip.make(waste, wells, one, stands);
-    }
-
-    private void sendTrial(int beasts, int start, Rule rule) {
-        trialCaravan.become(beasts, start, rule);
-        trialWells.become(now.wells);
-        send(now.waste, trialWells, trialCaravan);
-    }
-
-    private int fittest(int start, Rule rule) {
-        int most = -1, fewest = 0;
-        for (int beasts = 1; beasts <= MOST_BEASTS; beasts++) {
-            sendTrial(beasts, start, rule);
-            if (trip.over != NOT && worthOf(beasts) > most) {
-                most = worthOf(beasts);
-                fewest = beasts;
-            }
-        }
-        return fewest;
-    }
-
-    private int edge(int start, Rule rule) {
-        for (int beasts = 1; beasts <= MOST_BEASTS; beasts++) {
-            sendTrial(beasts, start, rule);
-            if (trip.over == NOT) {
-                return beasts;
-            }
-        }
-        return 0;
     }
 
     /** SEVERAL go in one of the ORDERS, one wholly behind the other. */
@@ -602,16 +591,6 @@ public final class SlowWells {
             if (one != null) {
                 send(now.waste, trialWells, one);
                 group.note(place, trip.over, worthOf(one.beasts));
-            }
-        }
-    }
-
-    private void findOrder() {
-        group.forgetOrder();
-        for (int order = 0; order * MOST_SEVERAL < ORDERS.length; order++) {
-            if (isOrderOf(order, now.severals)) {
-                sendSeveral(order);
-                group.compare(order);
             }
         }
     }
@@ -850,7 +829,11 @@ public final class SlowWells {
                     break;
                 case 'd':
                     takeWord("drink");
-                    readDrink();
+                    int n = readNumber(2);
+                    take(' ');
+                    int place = at;
+                    readEither(0);
+                    keepDrink(n, place);
                     break;
                 case 'c':
                     takeWord("carry");
@@ -881,11 +864,7 @@ public final class SlowWells {
             waste.addWell(f, readNumber(2));
         }
 
-        private void readDrink() {
-            int n = readNumber(2);
-            take(' ');
-            int place = at;
-            readEither(0);
+        private void keepDrink(int n, int place) {
             if (drinkCount < MOST_CLAUSES) {
                 drinkNumbers[drinkCount] = n;
                 drinkPlaces[drinkCount] = place;
@@ -911,21 +890,15 @@ public final class SlowWells {
 
         /** E: in which hours of the day it holds, a bit each. */
         private int readEither(int depth) {
-            int hours = readBoth(depth);
-            for (int i = 0; i < MOST_BYTES && next() == '|'; i++) {
+            int hours = 0, both = readPart(depth);
+            for (int i = 0; i < MOST_BYTES && (next() == '|' || next() == '&'); i++) {
+                boolean isOr = next() == '|';
                 at++;
-                hours |= readBoth(depth);
+                int part = readPart(depth);
+                hours |= isOr ? both : 0;
+                both = isOr ? part : both & part;
             }
-            return hours;
-        }
-
-        private int readBoth(int depth) {
-            int hours = readPart(depth);
-            for (int i = 0; i < MOST_BYTES && next() == '&'; i++) {
-                at++;
-                hours &= readPart(depth);
-            }
-            return hours;
+            return hours | both;
         }
 
         private int readPart(int depth) {
@@ -1035,7 +1008,11 @@ public final class SlowWells {
         }
 
         private int heldAt(int k, int hour) {
-            return hour <= last[k] ? level[k] : Math.min(full[k], level[k] + gives[k] * (hour - last[k]));
+            if (hour <= last[k]) {
+                return level[k];
+            }
+            int filled = level[k] + gives[k] * (hour - last[k]);
+            return filled < full[k] ? filled : full[k];
         }
 
         /** Somebody draws as much as there is of what is wanted: how much. */
@@ -1231,7 +1208,7 @@ public final class SlowWells {
         private final int[] least = new int[MOST_WAYS * HOURS];
         private Waste waste = null;
         private Wells wells = null;
-        private int beasts, carried, thirst;
+        private int beasts, carried, thirst, over;
 
         /** The earliest hour OVER, NOT if there is none. */
         private int earliest(Waste itsWaste, Wells itsWells, Caravan one) {
@@ -1246,21 +1223,21 @@ public final class SlowWells {
                     spread(k, i);
                 }
             }
-            for (int i = 0; i < HOURS; i++) {
+            over = NOT;
+            for (int i = HOURS - 1; i >= 0; i--) {
                 if (most[waste.wells * HOURS + i] >= 0) {
-                    return first[waste.wells] + i;
+                    over = first[waste.wells] + i;
                 }
             }
-            return NOT;
+            return over;
         }
 
-        /** The first row with the earliest hour OVER becomes the row; all 0 if there is none. */
-        private void plan(Waste itsWaste, Wells itsWells, Caravan one) {
+        /** The first row with the hour OVER that was found becomes the row; all 0 if there was none. */
+        private void plan() {
             for (int k = 0; k < MOST_WELLS; k++) {
                 row[k] = 0;
             }
-            int over = earliest(itsWaste, itsWells, one);
-            if (over == NOT) {
+            if (waste == null || wells == null || over == NOT) {
                 return;
             }
             for (int i = 0; i < HOURS; i++) {
@@ -1271,7 +1248,15 @@ public final class SlowWells {
                     least[k * HOURS + i] = leastAt(k, i);
                 }
             }
-            choose();
+            int i = 0, water = most[0];
+            for (int k = 0; k < waste.wells; k++) {
+                while (row[k] < MOST_STAND && !leadsOn(k, i, row[k], water)) {
+                    row[k]++;
+                }
+                int leaving = leaving(k, i, row[k]);
+                water = brought(k, i, leaving, water);
+                i = nextOf(k, leaving);
+            }
         }
 
         private void begin(int start) {
@@ -1310,7 +1295,9 @@ public final class SlowWells {
             for (int stand = 0; stand <= MOST_STAND && water >= 0; stand++) {
                 int leaving = leaving(k, i, stand);
                 int next = (k + 1) * HOURS + nextOf(k, leaving);
-                most[next] = Math.max(most[next], brought(k, i, leaving, water));
+                if (next >= 0 && next < most.length) {
+                    most[next] = Math.max(most[next], brought(k, i, leaving, water));
+                }
             }
         }
 
@@ -1318,7 +1305,7 @@ public final class SlowWells {
             int fewest = NEVER;
             for (int stand = 0; stand <= MOST_STAND; stand++) {
                 int leaving = leaving(k, i, stand);
-                int due = least[(k + 1) * HOURS + nextOf(k, leaving)] + waste.drunkAlong(k + 1, leaving, beasts);
+                int due = leastNext(k, leaving) + waste.drunkAlong(k + 1, leaving, beasts);
                 if (due <= carried) {
                     int stood = (leaving - first[k] - i) * thirst;
                     fewest = Math.min(fewest, stood + Math.max(0, due - wells.heldAt(k, leaving)));
@@ -1327,23 +1314,14 @@ public final class SlowWells {
             return fewest;
         }
 
-        private void choose() {
-            int i = 0, water = most[0];
-            for (int k = 0; k < waste.wells; k++) {
-                int stand = 0;
-                while (stand < MOST_STAND && !leadsOn(k, i, stand, water)) {
-                    stand++;
-                }
-                row[k] = stand;
-                int leaving = leaving(k, i, stand);
-                water = brought(k, i, leaving, water);
-                i = nextOf(k, leaving);
-            }
+        private int leastNext(int k, int leaving) {
+            int next = (k + 1) * HOURS + nextOf(k, leaving);
+            return next >= 0 && next < least.length ? least[next] : NEVER;
         }
 
         private boolean leadsOn(int k, int i, int stand, int water) {
             int leaving = leaving(k, i, stand);
-            return brought(k, i, leaving, water) >= least[(k + 1) * HOURS + nextOf(k, leaving)];
+            return brought(k, i, leaving, water) >= leastNext(k, leaving);
         }
     }
 
@@ -1367,8 +1345,11 @@ public final class SlowWells {
             latest = Math.max(latest, over);
         }
 
-        private int overAt(int place) {
-            return place >= 0 && place < MOST_SEVERAL ? overs[place] : NONE;
+        private int tell(int what) {
+            if (what < 2) {
+                return what == 0 ? worth : latest;
+            }
+            return what >= 10 && what < 10 + MOST_SEVERAL ? overs[what - 10] : NONE;
         }
 
         private void forgetOrder() {
