@@ -20,8 +20,9 @@ public final class SlowWells {
     private static final int[] ORDERS = {0, 1, 2, 0, 2, 1, 1, 0, 2, 1, 2, 0, 2, 0, 1, 2, 1, 0};
 
     private final Reader reader = new Reader();
-    private final Waste[] wastes = new Waste[MOST_WASTES];
     private int wasteCount;
+    /** What the next text is read into; null: the latest one holds, and another is to be made. */
+    private Waste unread = null;
     private final Rule[] rules = new Rule[MOST_RULES];
     private int ruleCount;
     private final Caravan[] caravans = new Caravan[MOST_CARAVANS];
@@ -65,19 +66,17 @@ public final class SlowWells {
         if (wasteCount >= MOST_WASTES) {
             return FULL;
         }
-        // a text with a fault leaves its waste here, and the next text takes it over
-        Waste next = wastes[wasteCount];
-        if (next == null) {
-            next = new Waste();
-            wastes[wasteCount] = next;
+        if (unread == null) {
+            unread = new Waste();
         }
-        int fault = reader.readInto(next);
+        int fault = reader.readInto(unread);
         reader.length = 0;
         if (fault >= 0) {
             return -10 - fault;
         }
-        now.waste = next;
-        now.wells.fill(next);
+        now.waste = unread;
+        now.wells.fill(unread);
+        unread = null;
         wasteCount++;
         return wasteCount - 1;
     }
@@ -1243,7 +1242,7 @@ public final class SlowWells {
             for (int i = 0; i < HOURS; i++) {
                 least[waste.wells * HOURS + i] = first[waste.wells] + i == over ? 0 : NEVER;
             }
-            for (int k = waste.wells - 1; k >= 0; k--) {
+            for (int k = waste.wells - 1; k > 0; k--) {
                 for (int i = 0; i <= k * MOST_STAND; i++) {
                     least[k * HOURS + i] = leastAt(k, i);
                 }

@@ -28,6 +28,9 @@ public final class AgainstPlainTest {
         for (int seed = 0; seed < 4 * factor && wrong < 5; seed++) {
             new AgainstPlainTest(seed + 2000000, 5).make(seed + 2000000, 100);
         }
+        for (int seed = 0; seed < 800 * factor && wrong < 5; seed++) {
+            new AgainstPlainTest(seed + 3000000, 3).makeTight(seed + 3000000, 60);
+        }
         faults(20000 * factor);
         System.out.println(wrong == 0 ? "no answer differs" : wrong + " runs differ");
         if (wrong != 0) {
@@ -76,6 +79,50 @@ public final class AgainstPlainTest {
         }
         while (calls < n && !differs) {
             call();
+        }
+        if (differs) {
+            System.out.println("seed " + seed + ":\n" + run);
+        }
+    }
+
+    /** Wells with hardly enough, so that it counts how long one stands at which. */
+    private void makeTight(long seed, int n) {
+        StringBuilder text = new StringBuilder("carry " + (3 + random.nextInt(9)));
+        int wells = 1 + random.nextInt(mostWells);
+        for (int k = 0; k < wells; k++) {
+            text.append(";well ").append(random.nextInt(14)).append(' ').append(random.nextInt(5));
+        }
+        for (int k = 0; k <= wells; k++) {
+            text.append(";way ").append(1 + random.nextInt(6));
+        }
+        text.append(";drink 1 h<24");
+        if (random.nextInt(3) == 0) {
+            text.append(";drink ").append(1 + random.nextInt(2)).append(' ').append(test());
+        }
+        if (random.nextInt(3) == 0) {
+            text.append(";stand 1");
+        }
+        feed(text.length() > 100 ? text.substring(0, text.lastIndexOf(";")) : text.toString());
+        due("waste", x.waste(), y.waste());
+        for (int kind : new int[] {5, pick(0, 1, 2, 3, 4, 6), 5}) {
+            due("rule " + kind, x.rule(kind, 4), y.rule(kind, 4));
+        }
+        for (int i = 0; i < 5; i++) {
+            int beasts = 1 + random.nextInt(3), start = random.nextInt(9), rule = random.nextInt(3);
+            due("caravan " + beasts + " " + start + " " + rule, x.caravan(beasts, start, rule),
+                y.caravan(beasts, start, rule));
+        }
+        due("image", x.image(), y.image());
+        while (calls < n && !differs) {
+            int c = random.nextInt(5);
+            due("goes " + c, x.goes(c), y.goes(c));
+            for (int k = 0; k < wells; k++) {
+                due("would " + c + " " + (10 + k), x.would(c, 10 + k), y.would(c, 10 + k));
+                due("would " + c + " " + (20 + k), x.would(c, 20 + k), y.would(c, 20 + k));
+            }
+            if (random.nextInt(3) == 0) {
+                due("undo", x.undo(), y.undo());
+            }
         }
         if (differs) {
             System.out.println("seed " + seed + ":\n" + run);

@@ -148,6 +148,9 @@ public final class PromisesTest {
         fault("load -1", 5);
         fault("stop 1", 2);
         fault("drunk 1", 2);
+        fault("load 100", 7);
+        fault("stand 100", 8);
+        fault("drink 100 h=1", 8);
         fault("drink 1", 7);
         fault("drink 1 ", 8);
         fault("drink 1 h", 9);
@@ -188,6 +191,14 @@ public final class PromisesTest {
         due("5", x.waste(), FULL);
         due("the text stays", x.count(5), 7);
         due("4 holds", x.of(1), 6);
+        SlowWells f = new SlowWells();
+        due("a fault at the end", read(f, "well 9 9;way 7;carry 7;load 7;stand 7;drink 7 h<24;"), -61);
+        due("nothing of it stays", read(f, "carry 6;carry 10"), 0);
+        due("wells", f.of(0), 0);
+        due("load", f.of(2), 1);
+        due("stand", f.of(3), 0);
+        due("way", f.of(30), 3);
+        due("drink", f.drinks(0, 0, 1), 0);
         SlowWells y = with(PLAIN);
         y.rule(0, 0);
         y.caravan(2, 0, 0);
@@ -550,6 +561,35 @@ public final class PromisesTest {
         read(x, "well 0 0;way 1;way 6;drink 2 h<3;drink 9 h=3;carry 9;stand 1");
         due("by day", x.would(0, 0), 10);
         due("by day", x.would(0, 10), 3);
+        // both wells are empty when it comes: an hour at the first brings what three at the second do
+        SlowWells y = with("well 3 3;well 3 1;way 3;way 1;way 7;drink 1 h<24;carry 8");
+        y.rule(5, 0);
+        y.rule(0, 0);
+        y.caravan(1, 0, 0);
+        y.caravan(3, 0, 1);
+        due("the first", y.goes(1), NOT);
+        due("over", y.would(0, 0), 12);
+        due("at well 0", y.would(0, 10), 1);
+        due("at well 1", y.would(0, 11), 0);
+        // a row that was found has no say in the next one, of which none comes over
+        read(y, "well 3 3;well 3 1;way 3;way 3;way 9;drink 1 h<24;carry 6");
+        due("none", y.would(0, 0), NOT);
+        due("at well 0", y.would(0, 10), 0);
+        due("at well 1", y.would(0, 11), 0);
+        // each well gives in six hours what the next way needs, and was emptied six hours ahead
+        SlowWells z = with("well 6 1;well 6 1;well 6 1;well 6 1;well 6 1;drink 2 h<24;carry 6");
+        z.rule(5, 0);
+        z.rule(3, 0);
+        z.caravan(1, 0, 0);
+        z.caravan(1, 0, 1);
+        for (int i = 0; i < 5; i++) {
+            z.row(1, 6);
+        }
+        due("the first", z.goes(1), 48);
+        due("six hours at each", z.would(0, 0), 54);
+        for (int k = 0; k < 5; k++) {
+            due("well " + k, z.would(0, 10 + k), 6);
+        }
     }
 
     private static void goes() {
@@ -935,6 +975,20 @@ public final class PromisesTest {
         due("odds", x.odds(2, 6), 5);
         due("what came behind it is no part of it", x.several(0), 3);
         due("back once more", x.undo(), 2);
+        SlowWells y = with(PLAIN);
+        y.rule(0, 0);
+        y.caravan(2, 0, 0);
+        y.caravan(2, 30, 0);
+        y.several(0);
+        y.several(1);
+        y.image();
+        y.several(-1);
+        y.several(1);
+        y.several(0);
+        due("turned", y.all(10), 36);
+        due("back", y.undo(), 2);
+        due("which they were", y.all(10), 6);
+        due("which they were", y.all(11), 36);
     }
 
     private static void traced(SlowWells x, int rule, int act, int arg, int want, int... bodies) {
