@@ -590,6 +590,20 @@ public final class PromisesTest {
         for (int k = 0; k < 5; k++) {
             due("well " + k, z.would(0, 10 + k), 6);
         }
+        // nine drink on way 0 alone and empty all wells; three come to each six hours later than they could, and more
+        // is wanted at each: the longest stands there are at all wells, in the longest text
+        SlowWells l = with("well 6 1;well 12 1;well 18 1;well 24 1;well 30 1;way 5;way 1;way 2;way 3;way 4;way 5;"
+            + "drink 2 b=3|w=0");
+        l.rule(5, 0);
+        l.rule(0, 0);
+        l.caravan(3, 0, 0);
+        l.caravan(9, 0, 1);
+        due("nine", l.goes(1), 20);
+        due("three", l.would(0, 0), 50);
+        for (int k = 0; k < 5; k++) {
+            due("well " + k, l.would(0, 10 + k), 6);
+            due("it comes with nothing", l.would(0, 20 + k), 0);
+        }
     }
 
     private static void goes() {
