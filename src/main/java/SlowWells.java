@@ -534,10 +534,12 @@ public final class SlowWells {
     }
 
     private static boolean isUnder(int kind, int other) {
-        for (int k = kind; k >= PLAIN && k <= DARK; k = ABOVE[k]) {
+        int k = kind;
+        for (int i = 0; i < ABOVE.length && k >= PLAIN && k < ABOVE.length; i++) {
             if (k == other) {
                 return true;
             }
+            k = ABOVE[k];
         }
         return false;
     }

@@ -252,7 +252,7 @@ public final class ActAndTapeEdgesTest extends Sentences {
     }
 
     private static void numbersOfRules() {
-        says("Terms 3", "i its number");
+        says("Terms 3", "0 stands, 1 draws, 2 tells; i its number");
         SlowWells x = new SlowWells();
         for (int i = 0; i < 10; i++) {
             x.rule(RULE, 0);
@@ -269,6 +269,9 @@ public final class ActAndTapeEdgesTest extends Sentences {
     private static void trace() {
         says("Terms 3", "THE TRACE: the numbers of the bodies that ran in the latest act(), as they began; the first 20 are kept.");
         SlowWells x = kinds(6);
+        due("the most that runs is less than 20, so that all are kept", x.act(DARK, TELLS, 0) == 12 ? x.count(6) : -1, 8);
+        says("Promise 25", "THE TRACE's i-th body. NONE.");
+        x = kinds(6);
         each("trace of none", x::trace, NONE, LOW, -1, 0, 19, 20, HIGH);
         act(x, DARK, TELLS, 0, ((0 + 6 ^ 6) - 6 + 12) * 2, 12, 70, 11, 71, 30, 10, 30, 10);
         each("trace of the longest, 8", x::trace, NONE, LOW, -1, 8, 19, 20, HIGH);
@@ -384,6 +387,13 @@ public final class ActAndTapeEdgesTest extends Sentences {
             each("tape(0, " + sort + ", n)", n -> x.tape(0, its, n), SIZE, LOW, -1);
         }
         due("still nothing", x.item(0, 0, 0), NOTHING);
+        says("Terms 4", "or a row of 0 bytes, 1 shorts, 2 ints, 3 longs, 4 booleans (items 0, 1)");
+        long[] cut = {0x6f, -0x1091, 0x7654ef6f, 0x12345677654ef6fL, 1};
+        for (int sort = 0; sort <= 4; sort++) {
+            x.tape(1, sort, 1);
+            x.item(1, 0, 0x12345677654ef6fL);
+            due("an item of sort " + sort, x.read(1, 0), cut[sort]);
+        }
         says("Promise 28", "A TAPE becomes a row of n (0 .. 60) of a sort, all 0");
         for (int tape = 0; tape <= 5; tape++) {
             int sort = Math.min(4, tape), its = tape;

@@ -93,6 +93,7 @@ public final class AskedEdgesTest extends Sentences {
         x.rule(RULE, 0);
         x.caravan(1, 0, 0);
         each("several(caravan)", x::several, NONE, LOW, -2, 1, 5, HIGH);
+        says("Terms 2", "SEVERAL: a row of CARAVANS (3 at most, as they come)");
         for (int i = 1; i <= 3; i++) {
             due("several(0)", x.several(0), i);
             due("count(3)", x.count(3), i);
@@ -157,8 +158,10 @@ public final class AskedEdgesTest extends Sentences {
         y.several(1);
         due("two", y.all(1), 51);
         y.several(2);
+        says("Terms 2", "the HOUR of the last one that comes OVER");
         due("three, the latest is not the last of the row", y.all(1), 51);
         due("WORTH of 1 and 3", y.all(0), 4);
+        says("Promise 18", "10 and k what the k-th comes to (its HOUR; -5)");
         due("0", y.all(10), NOT);
         due("1", y.all(11), 51);
         due("2", y.all(12), 1);
@@ -306,10 +309,14 @@ public final class AskedEdgesTest extends Sentences {
     }
 
     private static void lowestTerms() {
-        says("Terms 2", "a fraction in lowest terms");
+        says("Promise 19", "part 0 above, 1 below the line");
         SlowWells x = with("well 9 0;way 1;way 1;drink 9 h<24;carry 9");
         x.rule(RULE, 0);
         x.caravan(1, 0, 0);
+        x.odds(0, 1);
+        due("above", x.likely(0, 0), 9);
+        due("below", x.likely(0, 1), 10);
+        says("Terms 2", "a fraction in lowest terms");
         int[][] wants = {{1, 1}, {9, 10}, {4, 5}, {7, 10}, {3, 5}, {1, 2}, {2, 5}, {3, 10}, {1, 5}, {1, 10}, {0, 1}};
         for (int n = 0; n <= 10; n++) {
             x.odds(0, n);
@@ -455,6 +462,8 @@ public final class AskedEdgesTest extends Sentences {
         // who is on a WAY in HOUR 3 is LOST: behind 3 HOURS it stands for 1
         dug("way 5;drink 11 h=3", 3, 6);
         dug("way 5;drink 11 h=3|h=4", 3, 7);
+        dug("way 5;drink 11 h=3;stand 10", 3, 6);
+        dug("way 5;drink 11 h=3;stand 11", NOT, NOT);
     }
 
     private static void digNumbers() {
@@ -542,6 +551,12 @@ public final class AskedEdgesTest extends Sentences {
             x.tape(2, 2, 0);
             due("a row of none", x.judge(2, 0, 0), want);
         }
+        says("Promise 21", "JUDGED for a CARAVAN from place i of a TAPE on.");
+        SlowWells last = toJudge("well 0 0;stand 1;carry 1", new int[60]);
+        last.item(0, 59, 2);
+        due("place 58", last.judge(0, 58, 0), NOT);
+        due("place 59, the last", last.judge(0, 59, 0), 1);
+        due("place 60", last.judge(0, 60, 0), 101);
         says("Terms 4", "Stands told by a row of ints, from a place on, one for each WELL");
         SlowWells x = toJudge("well 0 0;well 0 0;way 1;way 1;way 1;stand 1;carry 7", 9, 1, 6, 1, 9);
         due("1 and 6", x.judge(0, 1, 0), NOT);
@@ -587,6 +602,14 @@ public final class AskedEdgesTest extends Sentences {
         due("two bad numbers", toJudge("carry 0;well 0 0;well 0 0", -1, 7).judge(0, 0, 0), 0);
         due("LOST standing ahead of a bad number", toJudge("stand 9;well 0 0;well 0 0", 6, 9).judge(0, 0, 0), 1);
         due("a bad number ahead of standing", toJudge("stand 9;well 0 0;well 0 0", 9, 6).judge(0, 0, 0), 0);
+        // WELL 0 was drawn from in HOUR 10, and whoever comes ahead of that is LOST standing: behind WELL 0
+        SlowWells y = toJudge("well 9 0;well 9 0;way 1;way 1;way 1;stand 9", 9);
+        y.caravan(1, 9, 0);
+        due("goes(1)", y.goes(1), 12);
+        due("a bad number where it would be LOST standing", y.judge(0, 0, 0), 0);
+        due("the end where it would be LOST standing", y.judge(1, 0, 0), 101);
+        y.item(0, 0, 0);
+        due("LOST standing", y.judge(0, 0, 0), 1);
         due("numbers beyond the WELLS", toJudge("well 0 0;well 0 0", 0, 0, 9).judge(0, 0, 0), NOT);
     }
 

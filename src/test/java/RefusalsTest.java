@@ -20,6 +20,9 @@ public final class RefusalsTest extends Sentences {
         refusedWithNoWaste();
         refusedWithSome();
         refusedAtTheMost();
+        firstWithNoWaste();
+        firstWithSome();
+        firstAtTheMost();
         asked();
         manyCalls();
         dearestCalls();
@@ -253,7 +256,7 @@ public final class RefusalsTest extends Sentences {
     }
 
     private static void refusedWithSome() {
-        says("Answers", "NONE (-1) no such number");
+        says("Answers", "NONE (-1) no such number (0 .. 4 of WELLS, 0 .. 5 of WAYS");
         changeNothing(RefusalsTest::some, List.of(
             new Named("of(4)", NONE, x -> x.of(4)),
             new Named("of(12)", NONE, x -> x.of(12)),
@@ -349,6 +352,99 @@ public final class RefusalsTest extends Sentences {
             new Named("rule(0, 7)", BAD, x -> x.rule(0, 7)),
             new Named("hand(7)", BAD, x -> x.hand(7)),
             new Named("several(6)", NONE, x -> x.several(6))));
+    }
+
+    private static void firstWithNoWaste() {
+        says("Answers", "the first that a call's words name");
+        changeNothing(RefusalsTest::noWaste, List.of(
+            new Named("of(4): NONE ahead of STATE", NONE, x -> x.of(4)),
+            new Named("of(15): NONE ahead of STATE", NONE, x -> x.of(15)),
+            new Named("of(36): NONE ahead of STATE", NONE, x -> x.of(36)),
+            new Named("of(14): STATE ahead of a WELL that is not there", STATE, x -> x.of(14)),
+            new Named("holds(5, 1000): NONE ahead of BAD, STATE", NONE, x -> x.holds(5, 1000)),
+            new Named("holds(5, 0): NONE ahead of STATE", NONE, x -> x.holds(5, 0)),
+            new Named("holds(0, 1000): BAD ahead of STATE", BAD, x -> x.holds(0, 1000)),
+            new Named("holds(4, 0): STATE ahead of a WELL that is not there", STATE, x -> x.holds(4, 0)),
+            new Named("drinks(6, 1000, 0): NONE ahead of BAD, STATE", NONE, x -> x.drinks(6, 1000, 0)),
+            new Named("drinks(6, 0, 1): NONE ahead of STATE", NONE, x -> x.drinks(6, 0, 1)),
+            new Named("drinks(0, 1000, 1): BAD ahead of STATE", BAD, x -> x.drinks(0, 1000, 1)),
+            new Named("drinks(0, 0, 0): BAD ahead of STATE", BAD, x -> x.drinks(0, 0, 0)),
+            new Named("drinks(5, 0, 1): STATE ahead of a WAY that is not there", STATE, x -> x.drinks(5, 0, 1)),
+            new Named("ever(1000): BAD ahead of STATE", BAD, x -> x.ever(1000)),
+            new Named("would(3, 0): NONE ahead of STATE", NONE, x -> x.would(3, 0)),
+            new Named("would(0, 3): NONE ahead of STATE", NONE, x -> x.would(0, 3)),
+            new Named("would(0, 14): STATE ahead of a WELL that is not there", STATE, x -> x.would(0, 14)),
+            new Named("goes(3): NONE ahead of STATE", NONE, x -> x.goes(3)),
+            new Named("gone(3, 0): NONE ahead of STATE", NONE, x -> x.gone(3, 0)),
+            new Named("gone(0, 25): NONE ahead of STATE", NONE, x -> x.gone(0, 25)),
+            new Named("gone(0, 24): STATE ahead of a WELL that is not there", STATE, x -> x.gone(0, 24)),
+            new Named("size(0, 4, 0): NONE ahead of STATE", NONE, x -> x.size(0, 4, 0)),
+            new Named("size(0, 0, 2): NONE ahead of STATE", NONE, x -> x.size(0, 0, 2)),
+            new Named("size(100, 0, 0): BAD ahead of STATE", BAD, x -> x.size(100, 0, 0)),
+            new Named("all(6): NONE ahead of STATE", NONE, x -> x.all(6)),
+            new Named("all(11), one in SEVERAL: NONE ahead of STATE", NONE, x -> x.all(11)),
+            new Named("dig(3, 0, 0, 0): NONE ahead of STATE", NONE, x -> x.dig(3, 0, 0, 0)),
+            new Named("dig(0, 0, 0, 2): NONE ahead of STATE", NONE, x -> x.dig(0, 0, 0, 2)),
+            new Named("dig(0, 100, 0, 0): BAD ahead of STATE", BAD, x -> x.dig(0, 100, 0, 0)),
+            new Named("dig(0, 0, 100, 0): BAD ahead of STATE", BAD, x -> x.dig(0, 0, 100, 0)),
+            new Named("judge(6, 0, 0): NONE ahead of STATE", NONE, x -> x.judge(6, 0, 0)),
+            new Named("judge(0, 0, 3): NONE ahead of STATE", NONE, x -> x.judge(0, 0, 3)),
+            new Named("judge(1, 0, 0): STATE ahead of CAST", STATE, x -> x.judge(1, 0, 0))));
+    }
+
+    private static void firstWithSome() {
+        says("Answers", "the first that a call's words name");
+        changeNothing(RefusalsTest::some, List.of(
+            new Named("holds(4, 1000): BAD ahead of a WELL that is not there", BAD, x -> x.holds(4, 1000)),
+            new Named("drinks(5, 0, 10): BAD ahead of a WAY that is not there", BAD, x -> x.drinks(5, 0, 10)),
+            new Named("odds(5, 11): NONE ahead of BAD", NONE, x -> x.odds(5, 11)),
+            new Named("rule(7, 7): NONE ahead of BAD", NONE, x -> x.rule(7, 7)),
+            new Named("row(4, 7): NONE ahead of BAD", NONE, x -> x.row(4, 7)),
+            new Named("row(0, 7): BAD ahead of STATE", BAD, x -> x.row(0, 7)),
+            new Named("caravan(0, 0, 4): NONE ahead of BAD", NONE, x -> x.caravan(0, 0, 4)),
+            new Named("caravan(1, 100, 4): NONE ahead of BAD", NONE, x -> x.caravan(1, 100, 4)),
+            new Named("size(100, 4, 0): NONE ahead of BAD", NONE, x -> x.size(100, 4, 0)),
+            new Named("size(100, 0, 2): NONE ahead of BAD", NONE, x -> x.size(100, 0, 2)),
+            new Named("dig(3, 100, 0, 0): NONE ahead of BAD", NONE, x -> x.dig(3, 100, 0, 0)),
+            new Named("dig(0, 0, 100, 2): NONE ahead of BAD", NONE, x -> x.dig(0, 0, 100, 2)),
+            new Named("judge(1, 0, 3): NONE ahead of CAST", NONE, x -> x.judge(1, 0, 3)),
+            new Named("judge(1, -1, 0): CAST ahead of 100", CAST, x -> x.judge(1, -1, 0)),
+            new Named("taken(4, 7): BAD ahead of NOTHING", BAD, x -> x.taken(4, 7)),
+            new Named("taken(0, 7): BAD ahead of CAST", BAD, x -> x.taken(0, 7)),
+            new Named("tape(6, 5, 0): NONE ahead of BAD", NONE, x -> x.tape(6, 5, 0)),
+            new Named("tape(6, 0, 61): NONE ahead of BAD", NONE, x -> x.tape(6, 0, 61)),
+            new Named("tape(6, 0, -1): NONE ahead of SIZE", NONE, x -> x.tape(6, 0, -1)),
+            new Named("tape(0, 5, -1): BAD ahead of SIZE", BAD, x -> x.tape(0, 5, -1)),
+            new Named("item(6, -1, 0): NONE ahead of NOTHING, PLACE", NONE, x -> x.item(6, -1, 0)),
+            new Named("item(5, -1, 0): NOTHING ahead of PLACE", NOTHING, x -> x.item(5, -1, 0)),
+            new Named("shift(5, 0, 6, 0, 0): NONE ahead of NOTHING", NONE, x -> x.shift(5, 0, 6, 0, 0)),
+            new Named("shift(-1, 0, 5, 0, 0): NONE ahead of NOTHING", NONE, x -> x.shift(-1, 0, 5, 0, 0)),
+            new Named("shift(0, -1, 6, 0, 0): NONE ahead of PLACE", NONE, x -> x.shift(0, -1, 6, 0, 0)),
+            new Named("shift(0, -1, 5, 0, 0): NOTHING ahead of PLACE", NOTHING, x -> x.shift(0, -1, 5, 0, 0)),
+            new Named("shift(0, -1, 1, 0, 0): CAST ahead of PLACE", CAST, x -> x.shift(0, -1, 1, 0, 0))));
+    }
+
+    private static void firstAtTheMost() {
+        says("Answers", "the first that a call's words name");
+        changeNothing(RefusalsTest::most, List.of(
+            new Named("feed(0, 5): BAD ahead of FULL", BAD, x -> x.feed(0, 5)),
+            new Named("feed(0, -1): BAD ahead of FULL", BAD, x -> x.feed(0, -1)),
+            new Named("waste(): FULL ahead of the FAULT", FULL, x -> x.waste()),
+            new Named("rule(7, 0): NONE ahead of FULL", NONE, x -> x.rule(7, 0)),
+            new Named("rule(0, 7): BAD ahead of FULL", BAD, x -> x.rule(0, 7)),
+            new Named("row(10, 0): NONE ahead of FULL", NONE, x -> x.row(10, 0)),
+            new Named("row(2, 7): BAD ahead of FULL", BAD, x -> x.row(2, 7)),
+            new Named("row(0, 0): STATE", STATE, x -> x.row(0, 0)),
+            new Named("caravan(1, 0, 10): NONE ahead of FULL", NONE, x -> x.caravan(1, 0, 10)),
+            new Named("caravan(10, 0, 0): BAD ahead of FULL", BAD, x -> x.caravan(10, 0, 0)),
+            new Named("caravan(1, -1, 0): BAD ahead of FULL", BAD, x -> x.caravan(1, -1, 0)),
+            new Named("hand(7): BAD ahead of FULL", BAD, x -> x.hand(7)),
+            new Named("several(6): NONE ahead of FULL", NONE, x -> x.several(6)),
+            new Named("several(-2): NONE ahead of FULL", NONE, x -> x.several(-2))));
+        SlowWells x = played(RefusalsTest::most);
+        due("hand(-1) is never FULL", x.hand(-1), 0);
+        due("several(-1) is never FULL", x.several(-1), 0);
+        due("feed(0, 0) is never FULL", x.feed(0, 0), 100);
     }
 
     private static void asked() {

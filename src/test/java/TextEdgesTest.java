@@ -38,6 +38,13 @@ public final class TextEdgesTest extends Sentences {
         due("undo()", x.undo(), STATE);
         says("Terms 2", "0 at first");
         each("odds", well -> x.odds(well, 0), 0, 0, 1, 2, 3, 4);
+        says("The constants", "`NO = Long.MIN_VALUE`: There is no such number.");
+        due("NO", SlowWells.NO, Long.MIN_VALUE);
+        says("The public face", "NONE = -1, BAD = -2, STATE = -3, FULL = -4");
+        due("NONE", SlowWells.NONE, -1);
+        due("BAD", SlowWells.BAD, -2);
+        due("STATE", SlowWells.STATE, -3);
+        due("FULL", SlowWells.FULL, -4);
         says("Promise 1", "A new object");
         SlowWells y = new SlowWells();
         due("another's waste", waste(y, "way 1"), 0);
@@ -520,6 +527,14 @@ public final class TextEdgesTest extends Sentences {
         }
         each("of", x::of, NONE, LOW, LOW + 10, HIGH, HIGH - 7);
         each("of", y::of, NONE, LOW, LOW + 10, HIGH, HIGH - 7);
+        says("Promise 4", "10 and k FULL of WELL k, 20 and k what it GIVES, 30 and k the HOURS of the k-th WAY");
+        for (int k = 0; k < 5; k++) {
+            due("FULL " + k, y.of(10 + k), 2 * k + 1);
+            due("GIVES " + k, y.of(20 + k), 2 * k + 2);
+        }
+        for (int k = 0; k < 6; k++) {
+            due("WAY " + k, y.of(30 + k), k + 1);
+        }
         says("Promise 4", "0 how many WELLS, 1 carry, 2 load, 3 stand");
         due("of(0)", y.of(0), 5);
         due("of(1)", y.of(1), 10);

@@ -20,6 +20,7 @@ public final class TripEdgesTest extends Sentences {
         darks();
         told();
         best();
+        bestAndStanding();
         bestOfSeveral();
         worth();
         would();
@@ -34,6 +35,7 @@ public final class TripEdgesTest extends Sentences {
         SlowWells x = new SlowWells();
         each("rule(kind, 0)", kind -> x.rule(kind, 0), NONE, outside(0, 6));
         each("rule(kind, 7)", kind -> x.rule(kind, 7), NONE, outside(0, 6));
+        says("Terms 1", "Each has a number v (0 .. 6)");
         for (int kind = 0; kind <= 6; kind++) {
             int its = kind;
             each("rule(" + kind + ", v)", v -> x.rule(its, v), BAD, outside(0, 6));
@@ -162,6 +164,7 @@ public final class TripEdgesTest extends Sentences {
         due("over the next midnight", y.would(1, WATER), 86);
         due("to midnight", y.would(2, WATER), 69);
         due("from midnight on", y.would(3, WATER), 79);
+        longWays();
         says("Terms 1", "w (the WELL from which the WAY goes; 0 before the first, i + 1 behind WELL i)");
         SlowWells w = withBeasts("well 0 0;well 0 0;way 1;way 1;way 1;drink 1 w=0;drink 2 w=1;drink 4 w=2;carry 7", 1);
         due("WATER at WELL 0", w.would(0, WATER), 6);
@@ -169,6 +172,31 @@ public final class TripEdgesTest extends Sentences {
         due("to the end", w.would(0, OVER), 3);
         SlowWells v = withBeasts("well 0 0;well 0 0;way 1;way 1;way 1;drink 1 w=0;drink 2 w=1;drink 4 w=2;carry 6", 1);
         due("lost on the last", v.would(0, LOST), 2);
+    }
+
+    /** The longest WAYS, from each HOUR of the day on. */
+    private static void longWays() {
+        for (int start = 0; start < 48; start++) {
+            SlowWells x = with("well 0 0;way 9;way 9;drink 1 h<24;drink 7 h=7;carry 99");
+            x.rule(RULE, 0);
+            x.caravan(1, start, 0);
+            x.caravan(9, start, 0);
+            int drunk = 9, then = 9;
+            for (int hour = start; hour < start + 9; hour++) {
+                drunk += hour % 24 == 7 ? 7 : 0;
+                then += (hour + 9) % 24 == 7 ? 7 : 0;
+            }
+            due("WATER of 1 behind 9 HOURS from " + start, x.would(0, WATER), 99 - drunk);
+            due("WATER of 9 behind 9 HOURS from " + start, x.would(1, WATER), 9 * (99 - drunk));
+            SlowWells y = with("well 0 0;way 9;way 9;drink 1 h<24;drink 7 h=7;carry " + (drunk + then));
+            y.rule(RULE, 0);
+            y.caravan(9, start, 0);
+            due("just enough from " + start, y.would(0, OVER), start + 18);
+            SlowWells z = with("well 0 0;way 9;way 9;drink 1 h<24;drink 7 h=7;carry " + (drunk + then - 1));
+            z.rule(RULE, 0);
+            z.caravan(9, start, 0);
+            due("one too little from " + start, z.would(0, LOST), 1);
+        }
     }
 
     private static void standing() {
@@ -345,6 +373,7 @@ public final class TripEdgesTest extends Sentences {
             due("holds(0, " + hour + ")", x.holds(0, hour), wants[hour]);
         }
         due("holds(0, 999)", x.holds(0, 999), 20);
+        says("Terms 1", "A WELL holds at an HOUR what it held when somebody drew last (then less that)");
         x.goes(0);
         due("drawn from again in the same HOUR", x.holds(0, 2), 10);
         due("an HOUR behind", x.holds(0, 3), 12);
@@ -549,6 +578,66 @@ public final class TripEdgesTest extends Sentences {
         due("goes", x.goes(1), over);
     }
 
+    /** But one WELL gives, as much in so many HOURS as the last WAY needs, and it is emptied as BEST comes there. */
+    private static void bestStandsAt(int well, int hours) {
+        StringBuilder text = new StringBuilder("drink 9 w=" + well + ";drink " + hours + " w=5;carry 27");
+        for (int k = 0; k < 5; k++) {
+            text.append(k == well ? ";well 27 3" : ";well 0 0");
+        }
+        SlowWells x = withKinds(0, text.toString());
+        x.caravan(9, 0, RULE);
+        x.caravan(1, 0, BEST);
+        x.goes(0);
+        String of = " at WELL " + well + " for " + hours + " HOURS";
+        boolean comes = hours <= 6 || well > 0;
+        due("OVER, standing" + of, x.would(1, OVER), comes ? 18 + hours : NOT);
+        for (int k = 0; k < 5 && comes; k++) {
+            // what is more than 6 it stands at the WELL ahead of that
+            int stand = k == well ? Math.min(6, hours) : k == well - 1 ? Math.max(0, hours - 6) : 0;
+            due("stand at " + k + ", standing" + of, x.would(1, STAND + k), stand);
+        }
+        if (!comes) {
+            due("it stands nowhere", x.would(1, STAND), 0);
+        }
+    }
+
+    private static void bestAndStanding() {
+        says("Terms 2", "of all rows of stands (0 .. 6 for each WELL) by which it comes OVER");
+        // whoever is on a WAY in HOUR 3 is LOST; standing costs too
+        for (int stand = 0; stand <= 3; stand++) {
+            SlowWells x = withKinds(0, "well 0 0;well 0 0;way 1;way 1;way 2;drink 5 h=3;carry 4;stand " + stand);
+            x.caravan(2, 0, BEST);
+            due("OVER with stand " + stand, x.would(0, OVER), stand < 3 ? 6 : NOT);
+            due("LOST with stand " + stand, x.would(0, LOST), stand < 3 ? NOT : 2);
+            due("at WELL 1 with stand " + stand, x.would(0, STAND + 1), stand < 3 ? 2 : 0);
+        }
+        // WELL 0 makes good what standing there costs: 0 and 2, then 1 and 1, then none
+        int[][] wants = {{5, 0, 2}, {5, 0, 2}, {5, 0, 2}, {5, 1, 1}, {5, 1, 1}, {NOT, 0, 0}};
+        for (int stand = 0; stand <= 5; stand++) {
+            SlowWells x = withKinds(0, "well 99 0;well 0 0;way 1;way 1;way 1;carry 4;stand " + stand
+                + ";drink 5 w=2&h<4");
+            x.caravan(1, 0, BEST);
+            due("OVER with stand " + stand, x.would(0, OVER), wants[stand][0]);
+            due("at WELL 0 with stand " + stand, x.would(0, STAND), wants[stand][1]);
+            due("at WELL 1 with stand " + stand, x.would(0, STAND + 1), wants[stand][2]);
+        }
+        // WELL 0 is emptied in HOUR 8: BEST comes there with 6, stands till 8 and needs 8 then
+        SlowWells y = withKinds(0, "well 9 3;way 1;way 1;drink 4 w=0;drink 8 w=1;stand 1;carry 10");
+        y.caravan(9, 7, RULE);
+        for (int start = 4; start >= 0; start--) {
+            y.caravan(1, start, BEST);
+        }
+        y.goes(0);
+        due("with 3 left: 0 and 9 in 3 HOURS", y.would(1, STAND), 3);
+        due("OVER", y.would(1, OVER), 12);
+        due("with 2 left it cannot stand 3", y.would(2, OVER), NOT);
+        due("it stands nowhere", y.would(2, STAND), 0);
+        due("with 0 left", y.would(4, STAND), 0);
+        due("with 0 left", y.would(4, LOST), 1);
+        due("not even till 8", y.would(5, STAND), NOT);
+        due("not even till 8", y.would(5, LOST), 1);
+    }
+
     private static void best() {
         says("Terms 2", "of all rows of stands (0 .. 6 for each WELL) by which it comes OVER, that with the earliest HOUR");
         bestNeeds(1, 3, 1);
@@ -567,6 +656,11 @@ public final class TripEdgesTest extends Sentences {
         SlowWells z = withKinds(6, "way 9;drink 9 h<24");
         z.caravan(1, 0, BEST);
         due("no WELLS, LOST", z.would(0, LOST), 0);
+        for (int needs = 0; needs <= 9; needs++) {
+            for (int well = 0; well < 5; well++) {
+                bestStandsAt(well, needs);
+            }
+        }
         // v has no say: it stands 6 with v 0, and 0 with v 6
         SlowWells v = withKinds(6, "well 9 0;way 1;way 1");
         v.caravan(1, 0, BEST);
@@ -643,6 +737,7 @@ public final class TripEdgesTest extends Sentences {
                 due("WATER at " + k, y.would(0, WATER + k), k < way ? 0 : NOT);
             }
         }
+        says("Promise 12", "10 and k its stand at WELL k, 20 and k its WATER as it comes to WELL k (-5: it does not)");
         for (int well = 0; well < 5; well++) {
             SlowWells y = withKinds(0, "carry 0;stand 1" + times(5, ";well 0 0"));
             for (int k = 0; k < 5; k++) {
@@ -652,12 +747,16 @@ public final class TripEdgesTest extends Sentences {
             due("LOST standing at " + well, y.would(0, LOST), well + 1);
             due("its stand there", y.would(0, STAND + well), 1);
             due("its WATER there", y.would(0, WATER + well), 0);
+            for (int k = well + 1; k < 5; k++) {
+                due("no stand at " + k, y.would(0, STAND + k), NOT);
+                due("no WATER at " + k, y.would(0, WATER + k), NOT);
+            }
         }
         due("it is not", withBeasts("way 1", 1).would(0, LOST), NOT);
     }
 
     private static void goes() {
-        says("Promise 13", "-5: it is LOST. NONE; STATE.");
+        says("Promise 13", "the HOUR at which it comes OVER; -5: it is LOST. NONE; STATE.");
         SlowWells x = new SlowWells();
         each("goes(caravan)", x::goes, NONE, LOW, -1, 0, 5, HIGH);
         x.rule(RULE, 0);
@@ -681,6 +780,7 @@ public final class TripEdgesTest extends Sentences {
         SlowWells x = new SlowWells();
         each("hand(n)", x::hand, BAD, LOW, -2, 7, HIGH);
         due("hand(-1) of none", x.hand(-1), 0);
+        says("Terms 2", "A ROW of stands told by hand, 5 at most");
         int[] numbers = {6, 0, 1, 5, 2};
         for (int i = 0; i < 5; i++) {
             due("hand(" + numbers[i] + ")", x.hand(numbers[i]), i + 1);
