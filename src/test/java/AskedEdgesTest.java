@@ -357,6 +357,14 @@ public final class AskedEdgesTest extends Sentences {
         x.odds(0, 10);
         likelyIs(x, "where all is DRY", 0, 0, 1);
         due("it goes as if nothing was DRY", x.would(0, OVER), 4);
+        // it comes in the HOUR in which another drew, and needs 1
+        SlowWells d = with("well 9 9;way 1;way 1;drink 1 h<24;carry 1");
+        d.rule(RULE, 0);
+        d.caravan(1, 0, 0);
+        due("goes(0)", d.goes(0), 2);
+        likelyIs(d, "in the HOUR of a drawing", 0, 1, 1);
+        d.odds(0, 10);
+        likelyIs(d, "in the HOUR of a drawing, DRY", 0, 0, 1);
         says("Terms 2", "whatever its RULE says by what there is");
         // at a full WELL WAIT goes on at once; at a DRY one it stands 6 HOURS, and standing takes all
         SlowWells y = withKinds(6, "well 9 0;way 1;way 1;drink 1 w=0;stand 1;carry 6");
